@@ -3,8 +3,12 @@ import java.util.TreeMap;
 
 /** Random runs on the class and on the model; every answer must be the same. */
 final class ModelTest {
-    private static final int RUNS = 3000;
-    private static final int CALLS = 400;
+    private static final int RUNS = 15000;
+    /** The document promises nothing about an object after its 512th call. */
+    private static final int MOST_CALLS = 512;
+    /** A text is the dearest step, and the looks at the end of a run are dearer than that. */
+    private static final int MOST_TYPED = 90;
+    private static final int RESERVE = 280;
     private static final int[] EXTREMES = {Integer.MIN_VALUE, Integer.MIN_VALUE + 1, -1000000000, -10, -9, -3, -2, -1,
         0, 1, 7, 8, 9, 10, 29, 30, 39, 40, 62, 63, 64, 79, 80, 126, 127, 1000, 1001, 10080, 10081, 999999999,
         1000000000, Integer.MAX_VALUE - 1, Integer.MAX_VALUE};
@@ -24,6 +28,7 @@ final class ModelTest {
     private final int mostLines;
     private final int numbers;
     private final int[] weights = new int[19];
+    private int made = 0;
 
     private ModelTest(int run, TreeMap<String, Integer> kinds) {
         random = new Random(20261117L * 31 + run);
@@ -86,8 +91,14 @@ final class ModelTest {
     }
 
     private void same(String call, int got, int want) {
+        made++;
         Check.due(name + call, got, want);
         kind(call.substring(0, call.indexOf('(')), want);
+    }
+
+    private void sameFingerprint() {
+        made++;
+        Check.due(name + "fingerprint()", router.fingerprint(), model.fingerprint());
     }
 
     private void go() {
@@ -95,22 +106,67 @@ final class ModelTest {
         for (int i = 0; i < size; i++) {
             same("addSwitch()", router.addSwitch(), model.addSwitch());
         }
+        for (int i = 0; i < 15 && run % 2 == 0; i++) {
+            addRoute(aSwitch(), aSwitch());
+        }
         if (run % 6 == 5) {
             makeMesh();
+        }
+        if (run % 10 == 3) {
+            makeChain();
         }
         if (run % 7 == 6) {
             comeNearTheEndOfTime();
         }
-        for (int i = 0; i < CALLS && Check.wrongAnswers() == 0; i++) {
+        if (run % 8 == 7) {
+            makeCrowd();
+        }
+        while (made + RESERVE <= MOST_CALLS && Check.wrongAnswers() == 0) {
             step();
-            Check.due(name + "fingerprint()", router.fingerprint(), model.fingerprint());
-            if (random.nextInt(20) == 0) {
-                lookAtAll();
+            if (random.nextInt(3) == 0) {
+                sameFingerprint();
             }
         }
-        for (int i = 0; i < 6; i++) {
+        int undone = random.nextInt(7);
+        for (int i = 0; i < undone; i++) {
             same("undo()", router.undo(), model.undo());
-            lookAtAll();
+            sameFingerprint();
+        }
+        lookAtTheEnd();
+        Check.dueTrue(name + "not more calls than are promised", made <= MOST_CALLS);
+    }
+
+    /** One kind of look a run, as all of them would be too many calls. */
+    private void lookAtTheEnd() {
+        sameFingerprint();
+        switch (run % 3) {
+            case 0:
+                lookAtTrace();
+                break;
+            case 1:
+                lookAtCalls();
+                break;
+            default:
+                lookAtSwitches();
+                break;
+        }
+    }
+
+    /** Nearly all routes, ported numbers and calls that there can be. */
+    private void makeCrowd() {
+        int size = model.switches();
+        for (int i = 0; i < 38; i++) {
+            int s = random.nextInt(size);
+            int t = random.nextInt(size);
+            same("addRoute(" + s + ", 0, " + t + ", " + i + ", 9)", router.addRoute(s, 0, t, i, 9),
+                    model.addRoute(s, 0, t, i, 9));
+        }
+        for (int i = 0; i < 29; i++) {
+            same("port(" + (50 + i) + ", 0)", router.port(50 + i, 0), model.port(50 + i, 0));
+        }
+        for (int i = 0; i < 12; i++) {
+            int s = random.nextInt(size);
+            same("call(" + s + ", " + (500 + i) + ")", router.call(s, 500 + i), model.call(s, 500 + i));
         }
     }
 
@@ -124,6 +180,20 @@ final class ModelTest {
             int prefix = random.nextInt(10) == 0 ? 12 : 0;
             same("addRoute(" + s + ", " + prefix + ", " + t + ", " + cost + ", 5)",
                     router.addRoute(s, prefix, t, cost, 5), model.addRoute(s, prefix, t, cost, 5));
+        }
+    }
+
+    /** Here calls have long ways. */
+    private void makeChain() {
+        int size = model.switches();
+        for (int s = 0; s < size; s++) {
+            int t = Math.min(s + 1, size - 1);
+            same("addRoute(" + s + ", 0, " + t + ", 0, 5)", router.addRoute(s, 0, t, 0, 5),
+                    model.addRoute(s, 0, t, 0, 5));
+        }
+        same("setLimit(6)", router.setLimit(6), model.setLimit(6));
+        for (int s = 0; s < size; s++) {
+            same("call(" + s + ", " + (500 + s) + ")", router.call(s, 500 + s), model.call(s, 500 + s));
         }
     }
 
@@ -189,7 +259,9 @@ final class ModelTest {
                 break;
             case 8:
                 same("call(" + s + ", " + n + ")", router.call(s, n), model.call(s, n));
-                lookAtTrace();
+                if (random.nextInt(4) == 0) {
+                    lookAtTrace();
+                }
                 break;
             case 9:
                 int place = below(10);
@@ -208,7 +280,9 @@ final class ModelTest {
                 break;
             case 13:
             case 14:
-                text();
+                if (random.nextInt(3) == 0) {
+                    text();
+                }
                 break;
             case 15:
                 if (random.nextInt(4) == 0) {
@@ -286,7 +360,7 @@ final class ModelTest {
                     break;
             }
         }
-        for (int i = 0; i < text.length(); i++) {
+        for (int i = 0; i < text.length() && i < MOST_TYPED; i++) {
             int c = random.nextInt(1000) < wildness ? any(EXTREMES) : text.charAt(i);
             same("type(" + c + ")", router.type(c), model.type(c));
         }
@@ -301,8 +375,7 @@ final class ModelTest {
         }
     }
 
-    private void lookAtAll() {
-        lookAtTrace();
+    private void lookAtCalls() {
         same("time()", router.time(), model.time());
         same("band()", router.band(), model.band());
         same("calls()", router.calls(), model.calls());
@@ -315,6 +388,9 @@ final class ModelTest {
                 kinds.merge("long way", 1, Integer::sum);
             }
         }
+    }
+
+    private void lookAtSwitches() {
         for (int s = -1; s <= model.switches(); s++) {
             int n = number();
             same("cheapest(" + s + ", " + n + ")", router.cheapest(s, n), model.cheapest(s, n));

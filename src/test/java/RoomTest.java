@@ -29,7 +29,7 @@ final class RoomTest {
         for (int n = 1; n < 32; n++) {
             x.port(n, n % 8);
         }
-        for (int i = 0; i < 20; i++) {
+        for (int i = 0; i < 15; i++) {
             x.setLookup(i % 3, true);
             x.setCodes(i % 8, 62);
             x.setLimit(6);
