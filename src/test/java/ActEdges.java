@@ -89,8 +89,8 @@ final class ActEdges {
     }
 
     private static void callAnswers() {
-        Check.sentence(10, "Returns the place of the call if it is connected; -10 minus its code otherwise; BAD if there is"
-                + " no such switch, or number is not in its range; FULL if 10 calls are connected.");
+        Check.sentence(10, "Returns the place of the call if it is connected; -10 minus its code otherwise; BAD if"
+                + " there is no such switch, or number is not in its range; FULL if 10 calls are connected.");
         for (int code = 1; code <= 5; code++) {
             CallRouter x = NetworkEdges.failingFirst(code);
             x.setCodes(0, 0);
@@ -169,8 +169,8 @@ final class ActEdges {
     }
 
     private static void passToTheEnd() {
-        Check.sentence(12, "Returns the time then; BAD if minutes is not in its range; STATE if the time would be greater"
-                + " than 1000000.");
+        Check.sentence(12, "Returns the time then; BAD if minutes is not in its range; STATE if the time would be"
+                + " greater than 1000000.");
         Check.due("to the end", before(999999).pass(1), 1000000);
         Check.due("behind it", before(999999).pass(2), -2);
         Check.due("behind it", before(1000000).pass(1), -2);

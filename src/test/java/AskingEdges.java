@@ -14,6 +14,7 @@ final class AskingEdges {
         band();
         route();
         choice();
+        choiceByBand();
         choiceAnswers();
         calls();
         way();
@@ -61,8 +62,8 @@ final class AskingEdges {
         Reveal.range("route", ORDINARY, (x, route) -> x.route(route, 3), at(0, 5), at(4, 4));
         Reveal.range("route", FULL, (x, route) -> x.route(route, 3), at(0, 0), at(39, 39));
         Check.due("no route", new CallRouter().route(0, 0), -1);
-        Check.sentence(15, "what: 0 its switch, 1 its prefix, 2 the next switch, 3 to 5 its costs in the bands 0 to 2, 6 its"
-                + " lines, 7 how many of them are occupied");
+        Check.sentence(15, "what: 0 its switch, 1 its prefix, 2 the next switch, 3 to 5 its costs in the bands 0 to"
+                + " 2, 6 its lines, 7 how many of them are occupied");
         Reveal.range("what", ORDINARY, (x, what) -> x.route(0, what), at(0, 0), at(7, 1));
         Reveal.range("what", FULL, (x, what) -> x.route(16, what), at(0, 0), at(7, 5));
         int[][] due = {{0, 0, 1, 5, 5, 8, 2, 1}, {1, 0, 2, 3, 3, 3, 2, 1}, {2, 0, 2, 9, 9, 9, 1, 0},
@@ -85,8 +86,8 @@ final class AskingEdges {
     }
 
     private static void choice() {
-        Check.sentence(16, "Returns the routes that a switch would take for a number that arrives there, not marked and not"
-                + " looked up.");
+        Check.sentence(16, "Returns the routes that a switch would take for a number that arrives there, not marked"
+                + " and not looked up.");
         CallRouter x = Scenes.switches(2);
         x.addRoute(0, 0, 1, 3, 1);
         x.addRoute(0, 9901, 1, 2, 1);
@@ -107,6 +108,30 @@ final class AskingEdges {
         Reveal.range("number", ORDINARY, (y, number) -> y.choice(0, number, 0), at(1, 0), at(999999999, 0));
     }
 
+    private static void choiceByBand() {
+        Check.sentence(16, "the order in which they would be tried");
+        int[] times = {480, 0, 7200};
+        int[][] orders = {{1, 2, 3}, {2, 3, 1}, {3, 1, 2}};
+        for (int s = 0; s < 8; s++) {
+            for (int band = 0; band < 3; band++) {
+                CallRouter x = Scenes.switches(8);
+                x.addRoute(s, 0, s, 0, 1);
+                for (int route = 1; route <= 3; route++) {
+                    x.addRoute(s, 12, s, 500, 1);
+                    for (int i = 0; i < 3; i++) {
+                        x.setCost(route, i, (route - 1 - i + 3) % 3);
+                    }
+                }
+                Scenes.passTo(x, times[band]);
+                for (int i = 0; i < 3; i++) {
+                    Check.due("place " + i + " at " + s + " in band " + band, x.choice(s, 123, i), orders[band][i]);
+                }
+                Check.due("no more", x.choice(s, 123, 3), -9);
+                Check.due("not at another switch", x.choice((s + 1) % 8, 123, 0), -9);
+            }
+        }
+    }
+
     private static void choiceAnswers() {
         Check.sentence(16, "i: the place in the order in which they would be tried, from 0");
         CallRouter x = Scenes.switches(1);
@@ -119,8 +144,8 @@ final class AskingEdges {
         Check.due("place 40", x.choice(0, 5, 40), -9);
         Check.due("place 41", x.choice(0, 5, 41), -9);
         Check.due("the greatest place", x.choice(0, 5, Integer.MAX_VALUE), -9);
-        Check.sentence(16, "Returns the route; BAD if there is no such switch, number is not in its range, or i is negative;"
-                + " NONE if there are not so many routes.");
+        Check.sentence(16, "Returns the route; BAD if there is no such switch, number is not in its range, or i is"
+                + " negative; NONE if there are not so many routes.");
         Reveal.unchanged("i = -1", ORDINARY, y -> y.choice(0, 5, -1), -1);
         Reveal.unchanged("the least i", ORDINARY, y -> y.choice(0, 5, Integer.MIN_VALUE), -1);
         Reveal.unchanged("the first one", ORDINARY, y -> y.choice(0, 5, 0), 0);
@@ -172,8 +197,8 @@ final class AskingEdges {
                 Check.due("place " + i + " of " + size, x.way(0, i), -9);
             }
         }
-        Check.sentence(18, "Returns the route; BAD if there is no call at this place, or i is negative; NONE if its way does"
-                + " not have so many routes.");
+        Check.sentence(18, "Returns the route; BAD if there is no call at this place, or i is negative; NONE if its"
+                + " way does not have so many routes.");
         Reveal.unchanged("the last one", ORDINARY, x -> x.way(0, 2), 2);
         Reveal.unchanged("behind it", ORDINARY, x -> x.way(0, 3), -9);
         Reveal.unchanged("the greatest i", ORDINARY, x -> x.way(0, Integer.MAX_VALUE), -9);

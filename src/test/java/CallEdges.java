@@ -22,6 +22,7 @@ final class CallEdges {
         noLines();
         linesAreFreeAgain();
         goingOn();
+        eachSwitchHasItsSet();
         lastRoute();
         keptLines();
         busyNumbers();
@@ -49,8 +50,8 @@ final class CallEdges {
 
     private static void eachAttemptHasItsOwn() {
         Check.sentence(0, "A CALL to a number is placed at a switch; it carries the sequence of digits, whether it is"
-                + " marked, and the switches at which it has been (each attempt has its own). When it arrives at switch"
-                + " s, this happens:");
+                + " marked, and the switches at which it has been (each attempt has its own). When it arrives at"
+                + " switch s, this happens:");
         CallRouter x = Scenes.switches(3);
         x.addRoute(0, 0, 1, 1, 1);
         x.addRoute(0, 0, 2, 2, 1);
@@ -100,8 +101,8 @@ final class CallEdges {
     }
 
     private static void hops() {
-        Check.sentence(0, "Otherwise, if it has been at as many switches as the hop limit says, its code is 4 (too many"
-                + " hops).");
+        Check.sentence(0, "Otherwise, if it has been at as many switches as the hop limit says, its code is 4 (too"
+                + " many hops).");
         for (int limit = 1; limit <= 6; limit++) {
             CallRouter x = Scenes.chain(limit);
             x.setLimit(limit);
@@ -197,8 +198,8 @@ final class CallEdges {
     }
 
     private static void longestPrefixes() {
-        Check.sentence(0, "Otherwise the routes of s are taken whose prefixes are the longest ones with which its sequence"
-                + " of digits begins (all routes of s with this longest prefix).");
+        Check.sentence(0, "Otherwise the routes of s are taken whose prefixes are the longest ones with which its"
+                + " sequence of digits begins (all routes of s with this longest prefix).");
         CallRouter x = Scenes.switches(2);
         x.addRoute(0, 12, 1, 0, 1);
         x.addRoute(0, 123, 1, 9, 1);
@@ -259,8 +260,8 @@ final class CallEdges {
     }
 
     private static void attempt31() {
-        Check.sentence(0, "Trying a route: this is an attempt. If it would be the 31st attempt of the call, the code is 6,"
-                + " and the whole call ends with this code,");
+        Check.sentence(0, "Trying a route: this is an attempt. If it would be the 31st attempt of the call, the code"
+                + " is 6, and the whole call ends with this code,");
         CallRouter x = failing(29);
         Check.due("the 30th attempt is made", x.call(0, 5), 0);
         Check.due("attempts", x.attempts(), 30);
@@ -355,8 +356,8 @@ final class CallEdges {
     }
 
     private static void linesAreFreeAgain() {
-        Check.sentence(0, "Otherwise a line of it is occupied, and the call arrives at the next switch, having been at s;"
-                + " if its code there is not 0, the line is free again.");
+        Check.sentence(0, "Otherwise a line of it is occupied, and the call arrives at the next switch, having been"
+                + " at s; if its code there is not 0, the line is free again.");
         for (int code = 1; code <= 5; code++) {
             CallRouter x = NetworkEdges.failingFirst(code);
             int occupied = x.route(0, 7);
@@ -396,9 +397,30 @@ final class CallEdges {
         dueTrace("no other route is tried", y, 0, 0);
     }
 
+    /** From s to t, where all routes fail; s goes on, or t, or neither. */
+    private static void eachSwitchHasItsSet() {
+        Check.sentence(0, "or is not in the set of s");
+        for (int s = 0; s < 8; s++) {
+            int t = (s + 3) % 8;
+            for (int going = 0; going < 4; going++) {
+                CallRouter x = Scenes.switches(8);
+                x.addRoute(s, 0, t, 0, 1);
+                x.addRoute(s, 0, t, 0, 1);
+                x.addRoute(t, 0, (t + 1) % 8, 0, 1);
+                x.addRoute(t, 0, (t + 1) % 8, 0, 1);
+                for (int other = 0; other < 8; other++) {
+                    x.setCodes(other, other == s && going % 2 == 0 || other == t && going < 2 ? 0 : 62);
+                }
+                Check.due("no route behind t", x.call(s, 5), -11);
+                int tries = going < 2 ? 2 : 3;
+                Check.due("attempts from " + s + " by " + t, x.attempts(), going % 2 == 0 ? tries : 2 * tries);
+            }
+        }
+    }
+
     private static void lastRoute() {
-        Check.sentence(0, "or the route was the last one, it is the code of the call at s; otherwise the next route is"
-                + " tried.");
+        Check.sentence(0, "or the route was the last one, it is the code of the call at s; otherwise the next route"
+                + " is tried.");
         CallRouter x = Scenes.switches(3);
         x.addRoute(0, 0, 1, 0, 1);
         x.addRoute(0, 0, 2, 1, 1);
@@ -454,8 +476,8 @@ final class CallEdges {
     }
 
     private static void marksOfFurtherAttempts() {
-        Check.sentence(0, "(When a call is looked up, its digits stay marked for the further attempts of this call from s"
-                + " on, but not for those of the switches before s.)");
+        Check.sentence(0, "(When a call is looked up, its digits stay marked for the further attempts of this call"
+                + " from s on, but not for those of the switches before s.)");
         CallRouter x = Scenes.switches(5);
         x.setLookup(1, true);
         x.port(5, 4);

@@ -15,6 +15,7 @@ final class CheapestEdges {
         hopLimit();
         loops();
         lookingUp();
+        markedAtEachSwitch();
         routesAccordingTo4();
         leastSum();
         servingCounts0();
@@ -117,6 +118,7 @@ final class CheapestEdges {
                 Check.due("looks " + looks + ", ported " + ported, x.cheapest(0, 45), looks + ported == 2 ? 3 : 7);
             }
         }
+        servedByMarks();
         CallRouter y = Scenes.switches(2);
         y.port(5, 0);
         Check.due("not looked up", y.cheapest(0, 5), -9);
@@ -126,6 +128,38 @@ final class CheapestEdges {
         Check.due("looked up where it ends", y.cheapest(1, 5), 8);
         y.setLimit(1);
         Check.due("too many hops before its mark ends it", y.cheapest(1, 5), -9);
+    }
+
+    private static void servedByMarks() {
+        CallRouter x = Scenes.switches(2);
+        x.setLookup(0, true);
+        x.port(45, 1);
+        x.addRoute(0, 4, 0, 0, 1);
+        Check.due("its own digits would be served", x.cheapest(0, 45), -9);
+        Check.due("those of another number are", x.cheapest(0, 46), 0);
+        x.addRoute(0, 9901, 0, 0, 1);
+        Check.due("its marked digits are served", x.cheapest(0, 45), 0);
+        Check.due("as the call is", x.call(0, 45), 0);
+    }
+
+    private static void markedAtEachSwitch() {
+        Check.sentence(23, "looking up as they are");
+        for (int s = 0; s < 8; s++) {
+            for (int t = 0; t < 8; t++) {
+                if (s != t) {
+                    CallRouter x = Scenes.switches(8);
+                    x.addRoute(s, 9900 + t, t, 3, 1);
+                    Check.due("no way", x.cheapest(s, 45), -9);
+                    x.port(45, t);
+                    x.setLookup(s, true);
+                    Check.due("marked from " + s + " to " + t, x.cheapest(s, 45), 3);
+                    Check.due("another number", x.cheapest(s, 46), -9);
+                    x.addRoute(s, 4, t, 9, 1);
+                    x.addRoute(t, 4, t, 0, 1);
+                    Check.due("not marked from " + s + " to " + t, x.cheapest(s, 46), 9);
+                }
+            }
+        }
     }
 
     private static void routesAccordingTo4() {
@@ -158,7 +192,9 @@ final class CheapestEdges {
         x.setCost(3, 1, 9);
         Check.due("one route", x.cheapest(0, 5), 10);
         x.addRoute(0, 0, 1, 4, 1);
-        Check.due("another one beside it", x.cheapest(0, 5), 4);
+        Check.due("a cheaper one beside it", x.cheapest(0, 5), 4);
+        x.addRoute(0, 0, 1, 6, 1);
+        Check.due("a dearer one beside it", x.cheapest(0, 5), 4);
         CallRouter y = Scenes.chain(6);
         y.setLimit(6);
         for (int route = 0; route < 6; route++) {
@@ -191,8 +227,8 @@ final class CheapestEdges {
     }
 
     private static void answers() {
-        Check.sentence(23, "Returns the sum; BAD if there is no such switch, or number is not in its range; NONE if there is"
-                + " no such way.");
+        Check.sentence(23, "Returns the sum; BAD if there is no such switch, or number is not in its range; NONE if"
+                + " there is no such way.");
         AskingEdges.onlyAsks("a sum", x -> x.cheapest(0, 6), 8, -9);
         Reveal.unchanged("no such way", ORDINARY, x -> x.cheapest(3, 6), -9);
         Check.due("no routes", Scenes.switches(1).cheapest(0, 5), -9);

@@ -74,8 +74,8 @@ final class ConnectedEdges {
     }
 
     private static void eachRouteOnTheWay() {
-        Check.sentence(0, "for each route on its way (in the order in which it went; a route that serves its numbers is"
-                + " the last one), the switch of the route owes the next switch");
+        Check.sentence(0, "for each route on its way (in the order in which it went; a route that serves its numbers"
+                + " is the last one), the switch of the route owes the next switch");
         for (int size = 1; size <= 6; size++) {
             CallRouter x = Scenes.chain(size);
             x.setLimit(6);

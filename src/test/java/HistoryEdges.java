@@ -10,6 +10,8 @@ final class HistoryEdges {
     static void look() {
         fiveStates();
         whatIsKept();
+        debtsAreKept();
+        waysAreKept();
         actsThatChangeNothing();
         theOldestOneIsDropped();
         theTraceStays();
@@ -65,9 +67,54 @@ final class HistoryEdges {
         Reveal.act("end in the last minute", Scenes::late, x -> x.end(0), 1000000);
     }
 
+    private static void debtsAreKept() {
+        Check.sentence(0, "calls, lines, debts and time).");
+        for (int s = 0; s < 8; s++) {
+            for (int t = 0; t < 8; t++) {
+                if (s != t) {
+                    CallRouter x = Scenes.switches(8);
+                    x.addRoute(s, 0, t, 5, 1);
+                    x.addRoute(t, 0, t, 0, 1);
+                    x.call(s, 6);
+                    x.end(0);
+                    Check.due(s + " owes " + t, x.owes(s, t), 5);
+                    x.undo();
+                    Check.due(s + " does not owe " + t, x.owes(s, t), 0);
+                    Check.due("a line is occupied", x.route(0, 7), 1);
+                    x.end(0);
+                    x.call(s, 6);
+                    x.end(0);
+                    x.undo();
+                    Check.due(s + " owes " + t + " for one call", x.owes(s, t), 5);
+                }
+            }
+        }
+    }
+
+    private static void waysAreKept() {
+        Check.sentence(0, "hop limit, calls, lines,");
+        for (int place = 0; place < 10; place++) {
+            CallRouter x = Scenes.chain(6);
+            x.setLimit(6);
+            for (int i = 0; i < 10; i++) {
+                x.call(0, 50 + i);
+            }
+            x.pass(7);
+            x.end(place);
+            Check.due("another call at its place", x.call(4, 6), place);
+            CallEdges.dueWay("another way", x, place, 4, 5);
+            x.undo();
+            Check.due("no call", x.way(place, 0), -1);
+            x.undo();
+            CallEdges.dueWay("its way", x, place, 0, 1, 2, 3, 4, 5);
+            Check.due("its number", x.called(place), 50 + place);
+            Check.due("its minutes", x.end(place), 35);
+        }
+    }
+
     private static void actsThatChangeNothing() {
-        Check.sentence(0, "Each call of a method described as an act that returns no error adds the state before it, also if"
-                + " it leaves all as it was;");
+        Check.sentence(0, "Each call of a method described as an act that returns no error adds the state before it,"
+                + " also if it leaves all as it was;");
         Supplier<CallRouter> scene = Scenes::ordinary;
         Reveal.act("setLookup", scene, x -> x.setLookup(1, true), 1);
         Reveal.act("setLookup", scene, x -> x.setLookup(0, false), 0);
@@ -156,10 +203,11 @@ final class HistoryEdges {
         Reveal.unchanged("a minute too much", Scenes::late, x -> x.pass(1), -2);
         Reveal.unchanged("no state", Scenes::empty, CallRouter::undo, -9);
         Reveal.unchanged("no text", Scenes::empty, CallRouter::run, -100);
-        for (Supplier<CallRouter> scene : List.<Supplier<CallRouter>>of(Scenes::empty, Scenes::ordinary, full, Scenes::late)) {
-            for (ToIntFunction<CallRouter> call : badCalls()) {
+        for (ToIntFunction<CallRouter> call : badCalls()) {
+            for (Supplier<CallRouter> scene : Scenes.SOME) {
                 Reveal.unchanged("a bad call", scene, call, -1);
             }
+            Reveal.unchanged("a bad call", Scenes::late, call, -1);
         }
     }
 
@@ -261,8 +309,8 @@ final class HistoryEdges {
     }
 
     private static void fingerprint() {
-        Check.sentence(28, "Returns a fingerprint. It starts as 79; then, for each of the following numbers, in this order,"
-                + " it becomes 31 times itself plus the number, in long arithmetic with overflow:");
+        Check.sentence(28, "Returns a fingerprint. It starts as 79; then, for each of the following numbers, in this"
+                + " order, it becomes 31 times itself plus the number, in long arithmetic with overflow:");
         Check.due("of a new object", new CallRouter().fingerprint(), folded(0, 0, 0, 5, 0, 0));
         Check.due("one switch", Scenes.switches(1).fingerprint(), folded(1, 0, 0, 5, 0, 0, 0));
         Check.due("a route", Scenes.chain(1).fingerprint(), folded(1, 1, 0, 0, 0, 1, 1, 1, 20, 0, 0, 5, 0, 0, 0));
@@ -280,9 +328,9 @@ final class HistoryEdges {
     }
 
     private static void fingerprintOfAll() {
-        Check.sentence(28, "the number of switches, the number of routes; for each route route() 0 to 7; the number of"
-                + " ported numbers, the hop limit, time(), calls(); for each two switches s and t, in the order of s and"
-                + " then of t, owes().");
+        Check.sentence(28, "the number of switches, the number of routes; for each route route() 0 to 7; the number"
+                + " of ported numbers, the hop limit, time(), calls(); for each two switches s and t, in the order of"
+                + " s and then of t, owes().");
         dueFolded("empty", Scenes.empty(), 0, 0, 0, 5);
         dueFolded("ordinary", Scenes.ordinary(), 4, 5, 2, 4);
         dueFolded("full", Scenes.fullNetwork(), 8, 40, 30, 5);

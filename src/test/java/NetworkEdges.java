@@ -33,8 +33,8 @@ final class NetworkEdges {
     }
 
     private static void newSwitches() {
-        Check.sentence(0, "A switch looks numbers up (initially it does not), and it has a set of codes for which it goes"
-                + " on to another route (initially the codes 1 to 4).");
+        Check.sentence(0, "A switch looks numbers up (initially it does not), and it has a set of codes for which it"
+                + " goes on to another route (initially the codes 1 to 4).");
         CallRouter x = Scenes.switches(8);
         for (int s = 0; s < 8; s++) {
             Check.due("lookup", x.setLookup(s, true), 0);
@@ -156,8 +156,8 @@ final class NetworkEdges {
     }
 
     private static void servingRoutes() {
-        Check.sentence(0, "If the next switch is the switch itself, the route serves its numbers: calls end there; such a"
-                + " route occupies no lines, and nothing is owed for it, whatever its costs are");
+        Check.sentence(0, "If the next switch is the switch itself, the route serves its numbers: calls end there;"
+                + " such a route occupies no lines, and nothing is owed for it, whatever its costs are");
         for (int cost : new int[] {0, 1, 1000}) {
             CallRouter x = Scenes.switches(1);
             x.addRoute(0, 0, 0, cost, 1);
@@ -191,8 +191,8 @@ final class NetworkEdges {
     }
 
     private static void prefixesAsInts() {
-        Check.sentence(0, "A prefix is told as an int: 0 for the empty one, otherwise the number with these digits (no"
-                + " prefix begins with the digit 0).");
+        Check.sentence(0, "A prefix is told as an int: 0 for the empty one, otherwise the number with these digits"
+                + " (no prefix begins with the digit 0).");
         CallRouter x = Scenes.switches(1);
         int[] prefixes = {0, 1, 9, 10, 100, 99999999, 100000000, 999999999};
         for (int i = 0; i < prefixes.length; i++) {

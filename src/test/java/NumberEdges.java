@@ -105,8 +105,8 @@ final class NumberEdges {
     }
 
     private static void markedDigits() {
-        Check.sentence(0, "if it was looked up and found to be ported to switch q, \"990\", the digit q, and the number"
-                + " (a marked number).");
+        Check.sentence(0, "if it was looked up and found to be ported to switch q, \"990\", the digit q, and the"
+                + " number (a marked number).");
         for (int number : new int[] {1, 10, 9903, 12345, 123456, 123456789, 999999999}) {
             String digits = "9903" + number;
             for (int length = 0; length <= Math.min(9, digits.length()); length++) {
@@ -172,8 +172,8 @@ final class NumberEdges {
 
     /** Every minute of the first week and of a day more. */
     private static void bands() {
-        Check.sentence(0, "The band of a time is 2 on the days 5 and 6; otherwise 0 if the minute of the day is from 480"
-                + " to 1199, and 1 if not.");
+        Check.sentence(0, "The band of a time is 2 on the days 5 and 6; otherwise 0 if the minute of the day is from"
+                + " 480 to 1199, and 1 if not.");
         int[] firstMinutes = {0, 480, 1200, 1920, 2640, 3360, 4080, 4800, 5520, 6240, 6960, 7200, 10080, 10560, 11280};
         int[] bands = {1, 0, 1, 0, 1, 0, 1, 0, 1, 0, 1, 2, 1, 0, 1};
         int at = 0;

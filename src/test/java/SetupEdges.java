@@ -15,6 +15,7 @@ final class SetupEdges {
         setCodes();
         setLimit();
         addRoute();
+        addRouteLeavesTheOthers();
         addRouteArguments();
         setCost();
         port();
@@ -177,8 +178,8 @@ final class SetupEdges {
         for (int what = 0; what < 8; what++) {
             Check.due("its number " + what, x.route(0, what), due[what]);
         }
-        Check.sentence(6, "Returns its number; BAD if there is no such switch, or another argument is not in its range; FULL"
-                + " if there are 40 routes.");
+        Check.sentence(6, "Returns its number; BAD if there is no such switch, or another argument is not in its"
+                + " range; FULL if there are 40 routes.");
         CallRouter y = Scenes.switches(1);
         for (int i = 0; i < 40; i++) {
             Check.due("a bad one has no number", y.addRoute(0, 0, 0, 0, 0), -1);
@@ -192,6 +193,28 @@ final class SetupEdges {
         Reveal.unchanged("there are 40", FULL, z -> z.addRoute(7, 999999999, 0, 1000, 20), -3);
         Reveal.unchanged("no such switch", Scenes::empty, z -> z.addRoute(0, 0, 0, 0, 1), -1);
         Check.due("all are bad", y.addRoute(-1, -1, -1, -1, -1), -1);
+    }
+
+    private static void addRouteLeavesTheOthers() {
+        Check.sentence(6, "Adds a route.");
+        for (int s = 0; s < 8; s++) {
+            for (int next = 0; next < 8; next++) {
+                CallRouter x = Scenes.chain(8);
+                x.call(3, 6);
+                x.call(4, 7);
+                x.addRoute(next, 5, s, 1, 1 + next);
+                x.addRoute(s, 5, next, 1000, 1 + s);
+                for (int route = 0; route < 8; route++) {
+                    int occupied = route < 3 || route == 7 ? 0 : route == 3 ? 1 : 2;
+                    int[] due = {route, 0, Math.min(7, route + 1), 1, 1, 1, 20, occupied};
+                    for (int what = 0; what < 8; what++) {
+                        Check.due("number " + what + " of route " + route, x.route(route, what), due[what]);
+                    }
+                }
+                Check.due("the new one", x.route(9, 0), s);
+                Check.due("the new one", x.route(9, 2), next);
+            }
+        }
     }
 
     private static void addRouteArguments() {
@@ -290,8 +313,8 @@ final class SetupEdges {
     }
 
     private static void portFull() {
-        Check.sentence(8, "Returns the switch to which it was ported before; NONE if it was not ported; BAD if there is no"
-                + " such switch, or number is not in its range; FULL if 30 numbers are ported, and this one is not.");
+        Check.sentence(8, "Returns the switch to which it was ported before; NONE if it was not ported; BAD if there"
+                + " is no such switch, or number is not in its range; FULL if 30 numbers are ported, and this one is not.");
         CallRouter x = Scenes.switches(8);
         for (int i = 0; i < 30; i++) {
             Check.due("not ported", x.port(1 + i, i % 8), -9);
@@ -329,8 +352,8 @@ final class SetupEdges {
             Check.due("unport of " + number, y.unport(number), 0);
         }
         Reveal.range("number", ORDINARY, CallRouter::unport, at(1, -9), at(999999999, -9));
-        Check.sentence(9, "Returns the switch to which it was ported; BAD if number is not in its range; NONE if it was not"
-                + " ported (this is an error, too).");
+        Check.sentence(9, "Returns the switch to which it was ported; BAD if number is not in its range; NONE if it"
+                + " was not ported (this is an error, too).");
         for (int i = 0; i < 30; i++) {
             CallRouter y = Scenes.fullNetwork();
             Check.due("ported to", y.unport(1000 + i), i % 8);

@@ -67,9 +67,9 @@ final class TextEdges {
     }
 
     private static void kinds() {
-        Check.sentence(0, "A command is one of: \"r\" switch \">\" switch \":\" prefix \"@\" number \"x\" number (add a route"
-                + " with this cost in all bands and so many lines); \"p\" digits \">\" switch (port a number); \"l\" switch"
-                + " (let it look numbers up).");
+        Check.sentence(0, "A command is one of: \"r\" switch \">\" switch \":\" prefix \"@\" number \"x\" number (add"
+                + " a route with this cost in all bands and so many lines); \"p\" digits \">\" switch (port a"
+                + " number); \"l\" switch (let it look numbers up).");
         CallRouter x = Scenes.switches(3);
         Check.due("a route", Scenes.run(x, "r2>1:470@12x3"), 1);
         int[] due = {2, 470, 1, 12, 12, 12, 3, 0};
@@ -191,8 +191,8 @@ final class TextEdges {
     }
 
     private static void tooManyDigits() {
-        Check.sentence(0, "(a tenth digit of a prefix or of digits, a fifth one of a number, and a first digit 0 of a prefix"
-                + " or of digits cannot),");
+        Check.sentence(0, "(a tenth digit of a prefix or of digits, a fifth one of a number, and a first digit 0 of a"
+                + " prefix or of digits cannot),");
         for (char c = '0'; c <= '9'; c++) {
             Check.due("a tenth digit of a prefix", Scenes.run(Scenes.switches(2), "r0>1:123456789" + c + "@1x1"), -114);
             Check.due("a tenth digit of digits", Scenes.run(Scenes.switches(2), "p123456789" + c + ">1"), -110);
@@ -230,8 +230,8 @@ final class TextEdges {
             Reveal.range("type", scene, CallRouter::type, new int[] {32, size < 80 ? size + 1 : -3},
                     new int[] {126, size < 80 ? size + 1 : -3});
         }
-        Check.sentence(24, "Returns the number of characters in the buffer; BAD if c is not in its range; FULL if there are"
-                + " 80 characters.");
+        Check.sentence(24, "Returns the number of characters in the buffer; BAD if c is not in its range; FULL if"
+                + " there are 80 characters.");
         CallRouter y = new CallRouter();
         for (int i = 1; i <= 80; i++) {
             Check.due("characters", y.type(31 + i), i);
@@ -307,8 +307,8 @@ final class TextEdges {
     }
 
     private static void notPossible() {
-        Check.sentence(26, "-1000 minus the index of the first command, from 0, that is not possible (addRoute(), port() or"
-                + " setLookup() would return an error there,");
+        Check.sentence(26, "-1000 minus the index of the first command, from 0, that is not possible (addRoute(),"
+                + " port() or setLookup() would return an error there,");
         for (String command : NOT_POSSIBLE) {
             for (int before = 0; before < 4; before++) {
                 String text = "l0;".repeat(before) + command;
