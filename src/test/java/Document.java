@@ -5,16 +5,31 @@ import java.nio.file.Path;
 import java.util.ArrayList;
 import java.util.List;
 
-/** The words of the document, from what an object is used for to the last promise. */
+/** The words of the document, from its first line to the last promise, and the face that it shows. */
 final class Document {
     private static final Path PLACE = Path.of("../shared/DOC.md");
 
     private Document() {
     }
 
+    static String text() throws IOException {
+        return Files.readString(PLACE, StandardCharsets.UTF_8);
+    }
+
+    /** The members that the document's face has, as it writes them but for "public" and ";". */
+    static List<String> face() throws IOException {
+        List<String> members = new ArrayList<>();
+        for (String line : text().split("\n")) {
+            if (line.matches("    public .*;")) {
+                members.add(line.replaceAll("^ *public |;$", ""));
+            }
+        }
+        return members;
+    }
+
     /** Each sentence that a test is for stands in the document, and no word of it is left without a test. */
     static void isTested(List<Check.Sentence> sentences) throws IOException {
-        List<String> parts = parts(Files.readString(PLACE, StandardCharsets.UTF_8));
+        List<String> parts = parts(text());
         Check.due("the parts of the document", parts.size(), 29);
         List<boolean[]> tested = new ArrayList<>();
         for (String part : parts) {
@@ -56,7 +71,7 @@ final class Document {
     /** Titles, signatures and lines that only lead to others tell nothing that could be tested. */
     private static boolean tells(String line) {
         return !line.startsWith("#") && !line.matches("\\d+: .*") && !line.matches("`[^`]*`|```.*|---- .*")
-                && !line.startsWith("Call routing among") && !line.startsWith("The constants:")
+                && !line.startsWith("The constants:")
                 && !line.startsWith("The constructor and the methods follow");
     }
 

@@ -14,21 +14,16 @@ import java.util.regex.Pattern;
 
 /** The rules of LANGUAGE.md that can be seen from the class and from its text. */
 final class LanguageTest {
-    private static final Set<String> FACE = Set.of("int addSwitch()", "int setLookup(int,boolean)",
-        "int setCodes(int,int)", "int setLimit(int)", "int addRoute(int,int,int,int,int)", "int setCost(int,int,int)",
-        "int port(int,int)", "int unport(int)", "int call(int,int)", "int end(int)", "int pass(int)", "int time()",
-        "int band()", "int route(int,int)", "int choice(int,int,int)", "int calls()", "int way(int,int)",
-        "int called(int)", "int owes(int,int)", "int attempts()", "int attempt(int,int)", "int cheapest(int,int)",
-        "int type(int)", "int clear()", "int run()", "int undo()", "long fingerprint()");
-    private static final Set<String> CONSTANTS = Set.of("BAD", "STATE", "FULL", "NONE");
     private static final String[] FORBIDDEN = {"\\bthrow\\b", "\\bthrows\\b", "\\btry\\b", "\\bcatch\\b",
         "\\bfinally\\b", "\\bsynchronized\\b", "\\bassert\\b", "\\bimport\\b", "\\bpackage\\b", "->", "::",
         "\\w+Exact\\b", "\\bSystem\\.(?!arraycopy\\b)", "\\bMath\\.random\\b", "\\bnative\\b", "\\bvolatile\\b",
         "\\bwhile *\\( *true *\\)", "for *\\( *;", "\\bdouble\\b", "\\bfloat\\b", "\\bequals\\b", "\\bhashCode\\b",
         "\\btoString\\b", "static *\\{"};
 
-    public static void main(String[] args) throws IOException {
-        lookAtFace();
+    public static void main(String[] args) throws IOException, IllegalAccessException {
+        lookAtMethodsOfFace(publicMethods());
+        lookAtConstants();
+        lookAtConstructor();
         List<Class<?>> all = new ArrayList<>(List.of(CallRouter.class.getDeclaredClasses()));
         Check.dueTrue("at most twelve classes", all.size() < 12);
         for (Class<?> inside : all) {
@@ -37,8 +32,9 @@ final class LanguageTest {
             Check.due(inside + " has no class inside", inside.getDeclaredClasses().length, 0);
         }
         all.add(CallRouter.class);
+        Set<String> publicNames = publicNames();
         for (Class<?> one : all) {
-            lookAtMembers(one);
+            lookAtMembers(one, publicNames);
         }
         lookAtText(Files.readString(Path.of("src/main/java/CallRouter.java"), StandardCharsets.ISO_8859_1));
         Check.finish();
@@ -52,7 +48,19 @@ final class LanguageTest {
         return method.getReturnType().getName() + " " + method.getName() + "(" + text + ")";
     }
 
-    private static void lookAtFace() {
+    /** The methods of the document's face, without the names of their parameters. */
+    private static Set<String> publicMethods() throws IOException {
+        Set<String> methods = new TreeSet<>();
+        for (String member : Document.face()) {
+            if (member.matches("\\w+ \\w+\\(.*\\)")) {
+                methods.add(member.replaceAll("(int|boolean) \\w+(?=[,)])", "$1").replace(", ", ","));
+            }
+        }
+        Check.due("the methods of the face", methods.size(), 27);
+        return methods;
+    }
+
+    private static void lookAtMethodsOfFace(Set<String> face) {
         Check.due("public and final", CallRouter.class.getModifiers(), Modifier.PUBLIC | Modifier.FINAL);
         Set<String> methods = new TreeSet<>();
         for (Method method : CallRouter.class.getDeclaredMethods()) {
@@ -61,25 +69,45 @@ final class LanguageTest {
                 Check.due(method + " is just public", method.getModifiers(), Modifier.PUBLIC);
             }
         }
-        Check.dueTrue("the methods of the face: " + methods, methods.equals(FACE));
+        Check.dueTrue("the methods of the face: " + methods, methods.equals(face));
+    }
+
+    private static void lookAtConstants() throws IOException, IllegalAccessException {
+        Set<String> due = new TreeSet<>();
+        for (String member : Document.face()) {
+            if (member.contains("=")) {
+                due.add(member);
+            }
+        }
+        Check.due("the constants of the face", due.size(), 4);
         Set<String> constants = new TreeSet<>();
         for (Field field : CallRouter.class.getDeclaredFields()) {
             if (!Modifier.isPrivate(field.getModifiers())) {
-                constants.add(field.getName());
+                Check.due(field + " is a public constant", field.getModifiers(),
+                        Modifier.PUBLIC | Modifier.STATIC | Modifier.FINAL);
+                constants.add("static final " + field.getType().getName() + " " + field.getName() + " = "
+                        + field.get(null));
             }
         }
-        Check.dueTrue("the constants of the face: " + constants, constants.equals(CONSTANTS));
+        Check.dueTrue("the constants of the face: " + constants, constants.equals(due));
+    }
+
+    private static void lookAtConstructor() {
         Constructor<?>[] constructors = CallRouter.class.getDeclaredConstructors();
         Check.due("one constructor", constructors.length, 1);
         Check.due("without arguments", constructors[0].getParameterCount(), 0);
         Check.due("that is public", constructors[0].getModifiers(), Modifier.PUBLIC);
     }
 
-    private static void lookAtMembers(Class<?> one) {
-        Set<String> publicNames = new TreeSet<>();
-        for (String method : FACE) {
-            publicNames.add(method.substring(method.indexOf(' ') + 1, method.indexOf('(')));
+    private static Set<String> publicNames() throws IOException {
+        Set<String> names = new TreeSet<>();
+        for (String method : publicMethods()) {
+            names.add(method.substring(method.indexOf(' ') + 1, method.indexOf('(')));
         }
+        return names;
+    }
+
+    private static void lookAtMembers(Class<?> one, Set<String> publicNames) {
         for (Method method : one.getDeclaredMethods()) {
             Check.dueTrue(method + " takes at most seven", method.getParameterCount() <= 7);
             Check.dueTrue(method + " bears a name of its own", one == CallRouter.class
